@@ -27,9 +27,9 @@ public final class BallAndName {
 
     private final Text text = new Text();
     private final Reader reader = new Reader();
-    private final Game game = new Game();
+    private final Round round = new Round();
+    private final Game game = round.game;
     private final Game draft = new Game();
-    private final Round round = new Round(game);
     private final SafeCall safeCall = new SafeCall();
     private final ManyRounds manyRounds = new ManyRounds();
     private final Sightings sightings = new Sightings();
@@ -145,7 +145,7 @@ public final class BallAndName {
         if (!game.has(i) || !within(what, 0, 3)) {
             return BAD;
         }
-        safeCall.search(game, round, i);
+        safeCall.search(round, i);
         if (!safeCall.found) {
             return NONE;
         }
@@ -181,7 +181,8 @@ public final class BallAndName {
         if (!game.has(i) || !game.has(k) || !within(part, 0, 1)) {
             return BAD;
         }
-        manyRounds.weigh(game, round, i);
+        manyRounds.prepareThrows(round);
+        manyRounds.weigh(game, i);
         return inLowestTerms(manyRounds.outWeight(k), part);
     }
 
@@ -189,7 +190,8 @@ public final class BallAndName {
         if (!game.has(i) || !within(part, 0, 1)) {
             return BAD;
         }
-        manyRounds.weigh(game, round, i);
+        manyRounds.prepareThrows(round);
+        manyRounds.weigh(game, i);
         return inLowestTerms(manyRounds.playedWeight, part);
     }
 
@@ -244,7 +246,8 @@ public final class BallAndName {
         if (!within(z, 0, MOST_AFTERNOON) || !within(what, 0, 1)) {
             return BAD;
         }
-        manyRounds.playAfternoon(game, round, z);
+        manyRounds.prepareThrows(round);
+        manyRounds.playAfternoon(game, z);
         return what == 0 ? manyRounds.afternoonOut : manyRounds.afternoonRounds;
     }
 
@@ -384,7 +387,8 @@ public final class BallAndName {
         /** The place behind the item's last sign. NONE if these are no numbers with , and ; */
         private int readNumbers(Text text, int behindLetter) {
             int place = behindLetter;
-            for (count = 0; count < MOST_NUMBERS; ) {
+            count = 0;
+            for (int i = 0; i < MOST_NUMBERS; i++) {
                 if (!text.hasFigureAt(place)) {
                     return NONE;
                 }
@@ -394,8 +398,8 @@ public final class BallAndName {
                     number = 10 * number + text.byteAt(place) - '0';
                     place++;
                 }
-                Rows.put(numbers, count, number);
-                count++;
+                Rows.put(numbers, i, number);
+                count = i + 1;
                 int sign = text.byteAt(place);
                 place++;
                 if (sign == ';') {
@@ -586,18 +590,16 @@ public final class BallAndName {
         }
     }
 
-    /** One round: where all stand at stop, and what the one with the ball can do then. */
+    /** One round of its game: where all stand at stop, and what the one with the ball can do then. */
     private static final class Round {
-        final Game game;
+        final Game game = new Game();
         final int[] kinds = new int[MOST_PLAYERS];
         final int[] stands = new int[MOST_PLAYERS];
+        /** From where it would be thrown at each. */
+        final int[] throwCells = new int[MOST_PLAYERS];
         int callee = 0;
         int cell = 0;
         int beats = 0;
-
-        Round(Game played) {
-            game = played;
-        }
 
         void playAsTold(int i) {
             Told told = game.who(i).told;
@@ -607,16 +609,23 @@ public final class BallAndName {
         void playCall(int j, int b, int h) {
             callee = j;
             cell = b;
-            beats = Math.max(beatsToBall(game.who(j)), h);
+            beats = Math.max(h, beatsToBall(game.who(j)));
             for (int k = 0; k < game.count; k++) {
                 suppose(k, game.who(k).kind);
             }
         }
 
-        /** In the round that was played, player k is of this kind: he alone stands elsewhere. */
+        /** In the round that was played, player k is of this kind: where he alone stands then. */
         void suppose(int k, int kind) {
+            Player player = game.who(k);
+            int away = player.start >= cell ? game.lastCell : 0;
+            int goal = kind == BOLD ? cell : away;
+            int beatsRun = kind == LATE ? beats - 1 : beats;
+            int slide = kind == BOLD ? 0 : game.slide;
+            int stop = k == callee ? cell : toward(goal, player.start, beatsRun * player.pace + slide);
             Rows.put(kinds, k, kind);
-            Rows.put(stands, k, k == callee ? cell : stop(game.who(k), kind));
+            Rows.put(stands, k, stop);
+            Rows.put(throwCells, k, toward(stop, cell, MOST_STEPS));
         }
 
         int standOf(int k) {
@@ -640,19 +649,19 @@ public final class BallAndName {
         int chanceOf(int k) {
             int size = game.who(k).size;
             int shown = Rows.at(kinds, k) == DUCKING ? size / 2 : size;
-            int far = Math.abs(standOf(k) - cellOfThrowAt(k));
+            int far = Math.abs(Rows.at(stands, k) - Rows.at(throwCells, k));
             int open = Math.min(SURE, Math.max(0, shown + game.who(callee).skill - far));
             return hiderOf(k) == NONE ? open : open / 2;
         }
 
         /** The lowest one behind whom player k is hidden. NONE. */
         int hiderOf(int k) {
-            int from = cellOfThrowAt(k);
-            int low = Math.min(from, standOf(k));
-            int high = Math.max(from, standOf(k));
+            int low = Math.min(Rows.at(throwCells, k), Rows.at(stands, k));
+            int high = Math.max(Rows.at(throwCells, k), Rows.at(stands, k));
             int size = game.who(k).size;
             for (int third = 0; third < game.count; third++) {
-                boolean between = standOf(third) > low && standOf(third) < high;
+                int at = Rows.at(stands, third);
+                boolean between = at > low && at < high;
                 if (third != k && third != callee && between && game.who(third).size >= size) {
                     return third;
                 }
@@ -660,32 +669,14 @@ public final class BallAndName {
             return NONE;
         }
 
-        private int cellOfThrowAt(int k) {
-            int goal = standOf(k);
-            return goal >= cell ? Math.min(goal, cell + MOST_STEPS) : Math.max(goal, cell - MOST_STEPS);
-        }
-
         private int beatsToBall(Player player) {
             int far = Math.abs(cell - player.start);
             return player.pace > 0 ? (far + player.pace - 1) / player.pace : far;
         }
 
-        private int stop(Player player, int kind) {
-            if (kind == BOLD) {
-                return stopToward(player);
-            }
-            int beatsRun = kind == LATE ? beats - 1 : beats;
-            int way = beatsRun * player.pace + game.slide;
-            return player.start >= cell
-                    ? Math.min(game.lastCell, player.start + way)
-                    : Math.max(0, player.start - way);
-        }
-
-        private int stopToward(Player player) {
-            int way = beats * player.pace;
-            return player.start >= cell
-                    ? Math.max(cell, player.start - way)
-                    : Math.min(cell, player.start + way);
+        /** The cell so far from there to the goal, not beyond it. */
+        private static int toward(int goal, int from, int far) {
+            return goal >= from ? Math.min(goal, from + far) : Math.max(goal, from - far);
         }
     }
 
@@ -697,39 +688,33 @@ public final class BallAndName {
         int height = 0;
         int chance = 0;
 
-        void search(Game game, Round round, int i) {
+        void search(Round round, int i) {
             found = false;
-            for (int j = 0; j < game.count; j++) {
-                if (j != i) {
-                    searchCalling(game, round, i, j);
-                }
-            }
-        }
-
-        private void searchCalling(Game game, Round round, int i, int j) {
-            for (int b = 0; b <= game.lastCell; b++) {
-                for (int h = 1; h <= MOST_HEIGHT; h++) {
-                    if (found && chance == 0) {
-                        return; // none later can be better
-                    }
-                    round.playCall(j, b, h);
-                    int target = round.target();
-                    if (target != i) {
-                        takeIfBetter(j, b, h, round.chanceOf(target));
+            for (int j = 0; j < round.game.count; j++) {
+                for (int b = 0; b <= round.game.lastCell; b++) {
+                    for (int h = 1; h <= MOST_HEIGHT; h++) {
+                        tryCall(round, i, j, b, h);
                     }
                 }
             }
         }
 
-        private void takeIfBetter(int j, int b, int h, int newChance) {
-            if (found && newChance >= chance) {
+        private void tryCall(Round round, int i, int j, int b, int h) {
+            boolean bestIsFound = found && chance == 0;
+            if (i == j || bestIsFound) {
                 return;
             }
-            found = true;
-            callee = j;
-            cell = b;
-            height = h;
-            chance = newChance;
+            round.playCall(j, b, h);
+            int target = round.target();
+            int newChance = round.chanceOf(target);
+            boolean better = !found || newChance < chance;
+            if (target != i && better) {
+                found = true;
+                callee = j;
+                cell = b;
+                height = h;
+                chance = newChance;
+            }
         }
     }
 
@@ -757,8 +742,18 @@ public final class BallAndName {
             return Rows.longAt(outWeights, k);
         }
 
-        void weigh(Game game, Round round, int starter) {
-            prepareThrows(game, round);
+        /** To be called ahead of weigh and playAfternoon: all rounds begin alike, so each throw stays the same. */
+        void prepareThrows(Round round) {
+            for (int i = 0; i < round.game.count; i++) {
+                round.playAsTold(i);
+                int target = round.target();
+                Rows.put(callees, i, round.callee);
+                Rows.put(targets, i, target);
+                Rows.put(chances, i, round.chanceOf(target));
+            }
+        }
+
+        void weigh(Game game, int starter) {
             Arrays.fill(weights, 0L);
             Arrays.fill(outWeights, 0L);
             playedWeight = 0;
@@ -793,8 +788,7 @@ public final class BallAndName {
             }
         }
 
-        void playAfternoon(Game game, Round round, int z) {
-            prepareThrows(game, round);
+        void playAfternoon(Game game, int z) {
             int letters = lettersOf(game);
             int turn = 0;
             for (int t = 0; t < MOST_ROUNDS; t++) {
@@ -812,17 +806,6 @@ public final class BallAndName {
         private static int draw(int z, int t) {
             long x = 7919L * z + 6151L * t + 1;
             return (int) (x * x % 65521 % 10);
-        }
-
-        /** All rounds begin alike, whoever has letters: whom each throws at is the same all game. */
-        private void prepareThrows(Game game, Round round) {
-            for (int i = 0; i < game.count; i++) {
-                round.playAsTold(i);
-                int target = round.target();
-                Rows.put(callees, i, round.callee);
-                Rows.put(targets, i, target);
-                Rows.put(chances, i, round.chanceOf(target));
-            }
         }
 
         /** The letters of all in one number. */
