@@ -615,7 +615,7 @@ public final class BallAndName {
             }
         }
 
-        /** In the round that was played, player k is of this kind: where he alone stands then. */
+        /** Player k is of this kind in the round that was played; the others stay where they stand. */
         void suppose(int k, int kind) {
             Player player = game.who(k);
             int away = player.start >= cell ? game.lastCell : 0;
