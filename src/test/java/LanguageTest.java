@@ -14,6 +14,7 @@ public final class LanguageTest {
         words(code);
         face(code);
         fields(code);
+        methods(source.split("\n"));
         Check.end();
     }
 
@@ -67,5 +68,30 @@ public final class LanguageTest {
     private static void fields(String code) {
         Matcher statics = Pattern.compile("(?m)^ +((?:public |private )?static (?!final)[^({]*)[;=]").matcher(code);
         Check.due("a static field is not final", statics.find() ? 1 : 0, 0);
+    }
+
+    /** Rule 11: seven parameters, sixty lines; and rule 12, in the plainest way: constructors alone make objects. */
+    private static void methods(String[] lines) {
+        Pattern header = Pattern.compile("^( +)(?:(?:public|private|static|final) )*((?:[\\w\\[\\]]+ )?)(\\w+)\\(([^)]*)\\) \\{$");
+        int found = 0;
+        for (int at = 0; at < lines.length; at++) {
+            Matcher method = header.matcher(lines[at]);
+            if (!method.matches()) {
+                continue;
+            }
+            found++;
+            String name = method.group(3);
+            int parameters = method.group(4).isEmpty() ? 0 : method.group(4).split(",").length;
+            Check.due(name + ": more than seven parameters", parameters > 7 ? 1 : 0, 0);
+            int end = at + 1;
+            while (end < lines.length - 1 && !lines[end].equals(method.group(1) + "}")) {
+                boolean makes = lines[end].contains("new ") && !lines[end].trim().startsWith("//");
+                boolean isConstructor = method.group(2).isEmpty();
+                Check.due(name + " makes an object: " + lines[end].trim(), makes && !isConstructor ? 1 : 0, 0);
+                end++;
+            }
+            Check.due(name + ": more than sixty lines", end - at + 1 > 60 ? 1 : 0, 0);
+        }
+        Check.due("methods and constructors are found", found > 80 ? 1 : 0, 1);
     }
 }
