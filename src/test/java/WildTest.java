@@ -7,11 +7,15 @@ public final class WildTest {
     public static void main(String[] args) {
         String[] texts = {"", "n5;p0,1,1,0,0;p5,1,1,0,0;", "n40;p0,5,9,9,3;p40,5,9,9,2;p0,1,1,0,1;p40,1,1,0,0;p20,3,5,5,3;",
             "p30,1,1,1,1;p0,5,5,5,2;l0,3;l1,3;a0,1,0,9;d0;"};
-        for (int run = 0; run < 60; run++) {
+        // no object is asked more than 512 calls: a look at its state is 63 of them
+        for (int run = 0; run < 600; run++) {
             BallAndName x = Check.written(texts[run % texts.length]);
             x.lay();
-            for (int n = 0; n < 400; n++) {
+            for (int n = 0; n < 100; n++) {
                 step(x, draw(25));
+            }
+            for (int n = 0; n < 3; n++) {
+                stepBetweenLooks(x, draw(25));
             }
         }
         Check.end();
@@ -26,19 +30,22 @@ public final class WildTest {
         return WILD[draw(WILD.length)];
     }
 
-    private static void step(BallAndName x, int what) {
-        long before = state(x);
-        long answer;
+    private static long step(BallAndName x, int what) {
+        long answer = 0;
         try {
             answer = answer(x, what);
         } catch (RuntimeException e) {
             Check.due("call " + what + " threw " + e, 1, 0);
-            return;
         }
         if (answer < -4) {
             Check.due("call " + what + " below NONE", answer, -4);
         }
-        if (answer < 0) {
+        return answer;
+    }
+
+    private static void stepBetweenLooks(BallAndName x, int what) {
+        long before = state(x);
+        if (step(x, what) < 0) {
             Check.due("refused call " + what, state(x), before);
         }
     }
